@@ -26,7 +26,7 @@ public final class RandomRuns {
         this.seed = seed;
         state = seed * 7919L + 17;
         times = new int[] {12, 40, 150, 1000}[below(4)];
-        start = below(1001 - times);
+        start = below(3) * below(1001 - times) / 2;
         keys = 1 + below(8);
         sizes = new int[] {2, 8, 40, 200}[below(4)];
         graces = new int[] {1, 5, 30, 201}[below(4)];
@@ -78,7 +78,9 @@ public final class RandomRuns {
         try {
             return call.answer();
         } catch (RuntimeException e) {
-            return e.getClass().getName();
+            String thrower = e.getStackTrace()[0].getClassName();
+            boolean own = thrower.equals("ViewFoundry") || thrower.equals("NaiveFoundry");
+            return own ? e.getClass().getName() : e;
         }
     }
 
