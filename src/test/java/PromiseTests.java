@@ -1,19 +1,5 @@
-import java.util.NoSuchElementException;
-
 /** For each promise its ordinary answers, its edges, and its wrong inputs, all worked out by hand from the document. */
-public final class PromiseTests {
-    private static final Class<?> ARGUMENT = IllegalArgumentException.class;
-    private static final Class<?> STATE = IllegalStateException.class;
-    private static final Class<?> BOUNDS = IndexOutOfBoundsException.class;
-    private static final Class<?> NONE = NoSuchElementException.class;
-    private static int promise = 0;
-    private static int wrong = 0;
-    private static int checks = 0;
-
-    private interface Call {
-        Object answer();
-    }
-
+public final class PromiseTests extends Checks {
     public static void main(String[] args) {
         logs();
         adding();
@@ -27,73 +13,11 @@ public final class PromiseTests {
         workers();
         figures();
         widest();
-        System.out.println(checks + " checks, " + wrong + " wrong");
-        if (wrong != 0) {
-            System.exit(1);
-        }
-    }
-
-    private static void is(Object want, Object got) {
-        checks++;
-        if (!want.equals(got)) {
-            wrong++;
-            StackTraceElement at = new Throwable().getStackTrace()[1];
-            int line = at.getMethodName().equals("fails") ? new Throwable().getStackTrace()[2].getLineNumber()
-                    : at.getLineNumber();
-            System.out.println("promise " + promise + ", line " + line + ": " + got + ", due is " + want);
-        }
-    }
-
-    private static void fails(Class<?> want, Call call) {
-        Object got;
-        try {
-            got = call.answer();
-        } catch (RuntimeException e) {
-            // The program itself has to throw, not the machine or the library within it.
-            got = e.getStackTrace()[0].getClassName().equals("ViewFoundry") ? e.getClass() : e;
-        }
-        is(want, got);
-    }
-
-    private static ViewFoundry with(char kind, char measure, char filter, int size, int step, int grace) {
-        ViewFoundry f = new ViewFoundry();
-        f.addView(kind, measure, filter, size, step, grace);
-        return f;
-    }
-
-    /** Puts a row and reads it at once. */
-    private static void row(ViewFoundry f, int part, int key, int time, int value) {
-        f.putRow(part, key, time, value);
-        f.read(part, 1);
-    }
-
-    /** Raises the marks of all parts by marks in their logs. */
-    private static void mark(ViewFoundry f, int time) {
-        for (int part = 0; part < 3; part++) {
-            f.putMark(part, time);
-            f.read(part, 1);
-        }
-    }
-
-    /** Raises the marks of the parts 1 and 2 out of the way, so that the part 0 alone has the mark of all. */
-    private static void free(ViewFoundry f) {
-        f.putMark(1, 999);
-        f.read(1, 1);
-        f.putMark(2, 999);
-        f.read(2, 1);
-    }
-
-    /** An output that waits, as its six details. */
-    private static String waits(ViewFoundry f, int output) {
-        StringBuilder text = new StringBuilder();
-        for (int what = 0; what < 6; what++) {
-            text.append(what == 0 ? "" : " ").append(f.waitingAt(output, what));
-        }
-        return text.toString();
+        end();
     }
 
     private static void logs() {
-        promise = 1;
+        about = "promise 1";
         ViewFoundry f = new ViewFoundry();
         for (int part = 0; part < 3; part++) {
             is(0, f.entries(part));
@@ -107,7 +31,7 @@ public final class PromiseTests {
         is(true, f.isSound());
         fails(BOUNDS, () -> f.told(0));
 
-        promise = 2;
+        about = "promise 2";
         is(0, f.putRow(0, 0, 0, -99));
         is(1, f.putRow(0, 7, 999, 99));
         is(0, f.putRow(2, 7, 999, 99));
@@ -133,7 +57,7 @@ public final class PromiseTests {
         f.read(0, 20);
         fails(STATE, () -> f.putRow(0, 0, 0, 0));
 
-        promise = 3;
+        about = "promise 3";
         is(0, f.putMark(1, 0));
         is(1, f.putMark(1, 999));
         for (int time : new int[] {-1, 1000}) {
@@ -144,7 +68,7 @@ public final class PromiseTests {
         fails(STATE, () -> f.putMark(0, 0));
         fails(ARGUMENT, () -> f.putMark(0, 1000));
 
-        promise = 4;
+        about = "promise 4";
         ViewFoundry s = new ViewFoundry();
         is(0, s.setSlack(2, 99));
         is(99, s.setSlack(2, 3));
@@ -159,7 +83,7 @@ public final class PromiseTests {
         fails(STATE, () -> with('t', 'c', 'a', 1, 1, 0).setSlack(2, 0));
         fails(ARGUMENT, () -> with('t', 'c', 'a', 1, 1, 0).setSlack(2, 100));
 
-        promise = 6;
+        about = "promise 6";
         is(1, s.entries(2));
         is(0, s.entries(1));
         fails(ARGUMENT, () -> s.entries(3));
@@ -167,7 +91,7 @@ public final class PromiseTests {
     }
 
     private static void adding() {
-        promise = 5;
+        about = "promise 5";
         ViewFoundry f = new ViewFoundry();
         is(0, f.addView('t', 'c', 'a', 1, 0, 0));
         is(1, f.addView('l', 's', 'e', 200, 200, 200));
@@ -225,7 +149,7 @@ public final class PromiseTests {
     private static void reading() {
         ViewFoundry f = new ViewFoundry();
         f.setSlack(0, 5);
-        promise = 7;
+        about = "promise 7";
         for (int i = 0; i < 25; i++) {
             f.putRow(0, 0, i, 0);
         }
@@ -239,13 +163,13 @@ public final class PromiseTests {
         fails(ARGUMENT, () -> f.read(3, 1));
         fails(ARGUMENT, () -> f.read(-1, 1));
 
-        promise = 8;
+        about = "promise 8";
         is(25, f.place(0));
         is(0, f.place(1));
         fails(ARGUMENT, () -> f.place(3));
         fails(ARGUMENT, () -> f.place(-1));
 
-        promise = 9;
+        about = "promise 9";
         is(19, f.markOf(0));
         row(f, 0, 0, 10, 0);
         is(19, f.markOf(0));
@@ -262,7 +186,7 @@ public final class PromiseTests {
         row(slow, 1, 0, 3, 0);
         is(-1, slow.markOf(1));
 
-        promise = 10;
+        about = "promise 10";
         is(-1, f.mark());
         row(f, 1, 0, 30, 0);
         row(f, 2, 0, 7, 0);
@@ -275,7 +199,7 @@ public final class PromiseTests {
         // Windows of 4 by 2: a time lies in two of them; times below 2 lie in the first alone.
         ViewFoundry f = with('l', 's', 'a', 4, 2, 3);
         free(f);
-        promise = 11;
+        about = "promise 11";
         row(f, 0, 2, 3, 10);
         row(f, 0, 1, 1, 7);
         is(3, f.held(0));
@@ -285,10 +209,10 @@ public final class PromiseTests {
         is(2, f.told(0));
         is("0 1 0 4 7 1", waits(f, 0));
         is("0 2 0 4 10 1", waits(f, 1));
-        promise = 13;
+        about = "promise 13";
         is(10, f.valueByAll(0, 2, 0, 4));
         fails(NONE, () -> f.valueByAll(0, 2, 2, 6));
-        promise = 12;
+        about = "promise 12";
         is(10, f.valueOf(0, 2, 0, 4));
         fails(NONE, () -> f.valueOf(0, 2, 2, 6));
         fails(NONE, () -> f.valueOf(0, 2, 0, 5));
@@ -302,11 +226,11 @@ public final class PromiseTests {
         is(4, f.waiting());
         // The mark 7 is the end of the window from 0 and its grace: let go, and rows of it are dropped.
         f.putMark(0, 7);
-        promise = 16;
+        about = "promise 16";
         int before = f.held(0);
         f.read(0, 1);
         is(before - 2, f.held(0));
-        promise = 15;
+        about = "promise 15";
         row(f, 0, 2, 2, 20);
         is(1, f.dropped(0));
         is(15, f.valueOf(0, 2, 0, 4));
@@ -322,7 +246,7 @@ public final class PromiseTests {
         is("0 5 4 8 1 1", waits(f, waited));
         is("0 6 4 8 9 1", waits(f, waited + 1));
 
-        promise = 5;
+        about = "promise 5";
         measures();
         ViewFoundry edge = with('t', 'c', 'a', 10, 3, 0);
         row(edge, 0, 1, 9, 1);
@@ -395,7 +319,7 @@ public final class PromiseTests {
     }
 
     private static void sessions() {
-        promise = 11;
+        about = "promise 11";
         ViewFoundry f = with('s', 'c', 'a', 3, 1, 2);
         free(f);
         row(f, 0, 1, 10, 1);
@@ -415,14 +339,14 @@ public final class PromiseTests {
         is("0 1 10 13 2 -1", waits(f, 3));
         is(4, f.waiting());
         is(2, f.held(0));
-        promise = 15;
+        about = "promise 15";
         // With the mark 17, a row of 11 is dropped: 11 and 3 and 1 and 2 is 17; one of 12 is not.
         row(f, 0, 1, 11, 1);
         is(1, f.dropped(0));
         row(f, 0, 2, 12, 1);
         is(1, f.dropped(0));
         is("0 2 12 12 1 1", waits(f, 4));
-        promise = 16;
+        about = "promise 16";
         // It is let go when the mark is greater than 12 and 6 and 2.
         is(3, f.held(0));
         row(f, 0, 7, 20, 1);
@@ -432,7 +356,7 @@ public final class PromiseTests {
         // The mark 21 makes those of 17 due, by rising keys.
         is("0 0 17 17 1 1", waits(f, 5));
         is("0 1 10 17 4 1", waits(f, 6));
-        promise = 13;
+        about = "promise 13";
         is(4, f.valueByAll(0, 1, 10, 17));
         is(1, f.valueByAll(0, 2, 12, 12));
         fails(NONE, () -> f.valueByAll(0, 7, 20, 21));
@@ -467,7 +391,7 @@ public final class PromiseTests {
     }
 
     private static void joins() {
-        promise = 11;
+        about = "promise 11";
         ViewFoundry f = with('j', 'c', 'a', 5, 1, 2);
         f.putMark(1, 999);
         f.read(1, 1);
@@ -481,18 +405,18 @@ public final class PromiseTests {
         is("0 1 10 5 23 1", waits(f, 1));
         is(2, f.waiting());
         row(f, 0, 1, 10, 3);
-        promise = 12;
+        about = "promise 12";
         is(26, f.valueOf(0, 1, 10, 15));
-        promise = 13;
+        about = "promise 13";
         is(26, f.valueByAll(0, 1, 10, 15));
         fails(NONE, () -> f.valueByAll(0, 1, 10, 4));
-        promise = 11;
+        about = "promise 11";
         is(4, f.told(0));
         // Left rows do not join with left ones; a right row joins with those that came ahead.
         row(f, 2, 1, 12, -5);
         is("0 1 10 12 -2 1", waits(f, 4));
         is(6, f.waiting());
-        promise = 16;
+        about = "promise 16";
         // The mark is 10. Rows of 4 stay up to the mark 16, those of 5 up to 17.
         is(7, f.held(0));
         f.putMark(0, 16);
@@ -506,7 +430,7 @@ public final class PromiseTests {
         is(6, f.held(0));
         f.read(0, 1);
         is(5, f.held(0));
-        promise = 15;
+        about = "promise 15";
         // With the mark 18, a row of 10 is dropped, one of 11 is not.
         row(f, 2, 1, 10, 0);
         is(1, f.dropped(0));
@@ -517,7 +441,7 @@ public final class PromiseTests {
     }
 
     private static void versions() {
-        promise = 11;
+        about = "promise 11";
         ViewFoundry f = with('v', 'c', 'a', 1, 1, 4);
         free(f);
         row(f, 0, 1, 10, 3);
@@ -541,18 +465,18 @@ public final class PromiseTests {
         is(7, f.waiting());
         row(f, 2, 1, 10, 21);
         is("0 1 10 10 24 1", waits(f, 8));
-        promise = 12;
+        about = "promise 12";
         is(24, f.valueOf(0, 1, 10, 10));
-        promise = 13;
+        about = "promise 13";
         is(24, f.valueByAll(0, 1, 10, 10));
         is(5, f.valueByAll(0, 0, 10, -1));
         fails(NONE, () -> f.valueByAll(0, 1, 11, 10));
-        promise = 15;
+        about = "promise 15";
         // With the mark 11, a row of 6 is dropped.
         row(f, 2, 1, 6, 0);
         row(f, 0, 1, 6, 0);
         is(2, f.dropped(0));
-        promise = 16;
+        about = "promise 16";
         is(8, f.held(0));
         // The mark 14: 14 less 4 is 10, so the version of 7 goes, and the lesser of 10; the row of 9 goes.
         row(f, 0, 5, 14, 0);
@@ -593,47 +517,47 @@ public final class PromiseTests {
         row(f, 0, 1, 7, -1);
         row(f, 1, 1, 3, 2);
         mark(f, 50);
-        promise = 11;
+        about = "promise 11";
         is(4, f.told(0));
         is(1, f.told(1));
         for (int view : new int[] {-1, 2, Integer.MAX_VALUE}) {
             fails(BOUNDS, () -> f.told(view));
-            promise = 12;
+            about = "promise 12";
             fails(BOUNDS, () -> f.valueOf(view, 1, 0, 4));
-            promise = 13;
+            about = "promise 13";
             fails(BOUNDS, () -> f.valueByAll(view, 1, 0, 4));
-            promise = 14;
+            about = "promise 14";
             fails(BOUNDS, () -> f.firstFrom(view, 1));
-            promise = 15;
+            about = "promise 15";
             fails(BOUNDS, () -> f.dropped(view));
-            promise = 16;
+            about = "promise 16";
             fails(BOUNDS, () -> f.held(view));
-            promise = 24;
+            about = "promise 24";
             fails(BOUNDS, () -> f.promisedSum(view));
-            promise = 28;
+            about = "promise 28";
             fails(BOUNDS, () -> f.meanOf(view, 1));
-            promise = 29;
+            about = "promise 29";
             fails(BOUNDS, () -> f.rest(view, 1, 0));
         }
-        promise = 12;
+        about = "promise 12";
         is(1, f.valueOf(0, 1, 0, 4));
         fails(NONE, () -> f.valueOf(0, 9, 0, 4));
         fails(NONE, () -> f.valueOf(0, -7, 0, 4));
         fails(NONE, () -> f.valueOf(0, 1, 1024, 4));
         fails(NONE, () -> f.valueOf(0, 1, 0, 2052));
         fails(NONE, () -> f.valueOf(0, 1, 8, 12));
-        promise = 13;
+        about = "promise 13";
         is(1, f.valueByAll(0, 1, 0, 4));
         fails(NONE, () -> f.valueByAll(0, 9, 0, 4));
         fails(NONE, () -> f.valueByAll(0, 1, 8, 12));
-        promise = 14;
+        about = "promise 14";
         is(0, f.firstFrom(0, 1));
         is(3, f.firstFrom(1, 1));
         fails(NONE, () -> f.firstFrom(0, 0));
         fails(NONE, () -> f.firstFrom(0, 8));
-        promise = 16;
+        about = "promise 16";
         is(0, f.held(0));
-        promise = 31;
+        about = "promise 31";
         is(true, f.isSound());
     }
 
@@ -643,45 +567,45 @@ public final class PromiseTests {
         free(f);
         row(f, 0, 1, 3, 4);
         row(f, 0, 2, 11, 6);
-        promise = 17;
+        about = "promise 17";
         is(2, f.waiting());
-        promise = 23;
+        about = "promise 23";
         is("0 1 0 10 4 1", waits(f, 0));
         is("1 1 3 3 1 1", waits(f, 1));
         fails(BOUNDS, () -> f.waitingAt(2, 0));
         fails(BOUNDS, () -> f.waitingAt(-1, 6));
         fails(ARGUMENT, () -> f.waitingAt(1, 6));
         fails(ARGUMENT, () -> f.waitingAt(1, -1));
-        promise = 19;
+        about = "promise 19";
         fails(STATE, () -> f.complete());
-        promise = 18;
+        about = "promise 18";
         is(2, f.cut());
         fails(STATE, () -> f.cut());
-        promise = 17;
+        about = "promise 17";
         is(0, f.waiting());
-        promise = 21;
+        about = "promise 21";
         is(0, f.promised());
-        promise = 23;
+        about = "promise 23";
         fails(BOUNDS, () -> f.waitingAt(0, 0));
-        promise = 22;
+        about = "promise 22";
         fails(BOUNDS, () -> f.outputAt(0, 0));
         // Behind the cut, the told window changes.
         row(f, 0, 1, 4, 1);
-        promise = 17;
+        about = "promise 17";
         is(4, f.waiting());
-        promise = 23;
+        about = "promise 23";
         is("0 1 0 10 4 -1", waits(f, 0));
         is("0 1 0 10 5 1", waits(f, 1));
         is("1 1 3 3 1 -1", waits(f, 2));
         is("1 1 3 4 2 1", waits(f, 3));
-        promise = 19;
+        about = "promise 19";
         is(2, f.complete());
         fails(STATE, () -> f.complete());
-        promise = 21;
+        about = "promise 21";
         is(2, f.promised());
-        promise = 17;
+        about = "promise 17";
         is(4, f.waiting());
-        promise = 22;
+        about = "promise 22";
         is(1, f.outputAt(1, 0));
         is(1, f.outputAt(0, 1));
         is(0, f.outputAt(0, 2));
@@ -692,10 +616,10 @@ public final class PromiseTests {
         fails(BOUNDS, () -> f.outputAt(-1, 9));
         fails(ARGUMENT, () -> f.outputAt(0, 6));
         fails(ARGUMENT, () -> f.outputAt(0, -1));
-        promise = 24;
+        about = "promise 24";
         is(1, f.promisedSum(0));
         is(1, f.promisedSum(1));
-        promise = 20;
+        about = "promise 20";
         is(4, f.crash());
         is(4, f.valueOf(0, 1, 0, 10));
         is(1, f.valueOf(1, 1, 3, 3));
@@ -711,36 +635,36 @@ public final class PromiseTests {
         is(0, f.crash());
         // Reading once more does the same again; an open cut is lost with all that it prepared.
         f.read(0, 1);
-        promise = 18;
+        about = "promise 18";
         is(4, f.cut());
         row(f, 0, 1, 2, 1);
-        promise = 17;
+        about = "promise 17";
         is(4, f.waiting());
-        promise = 20;
+        about = "promise 20";
         is(8, f.crash());
         is(true, f.isSound());
-        promise = 19;
+        about = "promise 19";
         fails(STATE, () -> f.complete());
         f.read(0, 1);
-        promise = 18;
+        about = "promise 18";
         is(4, f.cut());
-        promise = 19;
+        about = "promise 19";
         is(6, f.complete());
-        promise = 22;
+        about = "promise 22";
         is(-1, f.outputAt(2, 5));
         is(5, f.outputAt(3, 4));
-        promise = 24;
+        about = "promise 24";
         is(1, f.promisedSum(0));
         is(1, f.promisedSum(1));
         fails(BOUNDS, () -> f.promisedSum(2));
-        promise = 20;
+        about = "promise 20";
         is(0, f.crash());
         is(5, f.valueOf(0, 1, 0, 10));
         dropsAndBeginnings();
     }
 
     private static void dropsAndBeginnings() {
-        promise = 20;
+        about = "promise 20";
         ViewFoundry f = with('t', 's', 'a', 10, 1, 0);
         mark(f, 10);
         row(f, 0, 1, 3, 4);
@@ -779,7 +703,7 @@ public final class PromiseTests {
 
     /** The most outputs that can be: 158 rows, each late in 200 told windows of each of five views. */
     private static void widest() {
-        promise = 17;
+        about = "promise 17";
         ViewFoundry f = new ViewFoundry();
         for (int view = 0; view < 5; view++) {
             f.addView('l', 's', 'a', 200, 1, 200);
@@ -798,9 +722,9 @@ public final class PromiseTests {
             is(200, f.held(0));
             is(1000, f.load(1));
             is(158 * 99, f.valueByAll(3, 7, 1, 201));
-            promise = 31;
+            about = "promise 31";
             is(true, f.isSound());
-            promise = 20;
+            about = "promise 20";
             is(315000, f.crash());
             is(0, f.waiting());
             for (int part = 0; part < 3; part++) {
@@ -817,19 +741,19 @@ public final class PromiseTests {
         row(f, 2, 1, 8, 1);
         row(f, 0, 4, 8, 1);
         row(f, 0, 2, 8, 1);
-        promise = 26;
+        about = "promise 26";
         for (int key = 0; key < 8; key++) {
             is(key % 3, f.workerOf(key));
         }
         fails(ARGUMENT, () -> f.workerOf(8));
         fails(ARGUMENT, () -> f.workerOf(-1));
-        promise = 27;
+        about = "promise 27";
         is(0, f.load(0));
         is(9, f.load(1));
         is(4, f.load(2));
         fails(ARGUMENT, () -> f.load(3));
         fails(ARGUMENT, () -> f.load(-1));
-        promise = 25;
+        about = "promise 25";
         is(5, f.moveKey(1, 0));
         is(0, f.moveKey(0, 2));
         is(4, f.moveKey(2, 2));
@@ -849,7 +773,7 @@ public final class PromiseTests {
     private static void figures() {
         ViewFoundry f = with('t', 's', 'a', 10, 1, 0);
         f.addView('j', 'c', 'a', 3, 1, 0);
-        promise = 30;
+        about = "promise 30";
         fails(NONE, () -> f.droppedShare());
         f.putMark(0, 0);
         f.read(0, 1);
@@ -859,14 +783,14 @@ public final class PromiseTests {
         row(f, 0, 2, 15, 4);
         row(f, 1, 3, 25, 9);
         mark(f, 40);
-        promise = 28;
+        about = "promise 28";
         is(-2f, f.meanOf(0, 1));
         is(4f, f.meanOf(0, 2));
         is(9f, f.meanOf(0, 3));
         fails(NONE, () -> f.meanOf(0, 4));
         fails(NONE, () -> f.meanOf(0, -1));
         fails(NONE, () -> f.meanOf(1, 1));
-        promise = 29;
+        about = "promise 29";
         is(Float.floatToIntBits(9f % 1.75f), f.rest(0, 3, 7));
         is(Float.floatToIntBits(9f % 1.75f), f.rest(0, 3, -7));
         is(Float.floatToIntBits(-2f % 0.75f), f.rest(0, 1, 3));
@@ -876,7 +800,7 @@ public final class PromiseTests {
         is(0, f.rest(0, 3, 1));
         fails(ARGUMENT, () -> f.rest(0, 3, 0));
         fails(NONE, () -> f.rest(0, 4, 0));
-        promise = 30;
+        about = "promise 30";
         is(0.0, f.droppedShare());
         row(f, 0, 1, 5, 1);
         // Both views drop it: 2 of 5 rows; then a right row, that the join drops alone.
@@ -889,7 +813,7 @@ public final class PromiseTests {
         row(none, 2, 0, 0, 0);
         is(0.0, none.droppedShare());
 
-        promise = 28;
+        about = "promise 28";
         // Bits of means are great numbers; their sum goes beyond an int.
         ViewFoundry great = with('t', 'm', 'a', 10, 1, 0);
         row(great, 0, 1, 5, 7);
@@ -898,9 +822,9 @@ public final class PromiseTests {
         mark(great, 40);
         double sum = (double) Float.floatToIntBits(7f) + Float.floatToIntBits(9f) + Float.floatToIntBits(11f);
         is((float) Math.floor(sum / 3.0), great.meanOf(0, 1));
-        promise = 29;
+        about = "promise 29";
         is(Float.floatToIntBits(great.meanOf(0, 1) % (float) (1000003 / 4f)), great.rest(0, 1, 1000003));
-        promise = 31;
+        about = "promise 31";
         is(true, great.isSound());
         is(true, f.isSound());
     }
