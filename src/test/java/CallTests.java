@@ -35,6 +35,7 @@ public final class CallTests extends Checks {
         rests();
         shares();
         soundness();
+        severalExceptions();
         refusedWithoutATrace();
         end();
     }
@@ -796,6 +797,29 @@ public final class CallTests extends Checks {
         }
         f.crash();
         is(true, f.isSound());
+    }
+
+    private static void severalExceptions() {
+        about = "If several exceptions apply, the one that is listed first is thrown.";
+        ViewFoundry f = inState(2);
+        fails(ARGUMENT, () -> f.putRow(0, 8, 0, 0));
+        fails(ARGUMENT, () -> f.putRow(0, 0, 0, 100));
+        fails(ARGUMENT, () -> f.putMark(0, 1000));
+        fails(ARGUMENT, () -> f.setSlack(0, 100));
+        fails(ARGUMENT, () -> f.setSlack(3, 0));
+        fails(ARGUMENT, () -> f.addView('t', 'c', 'a', 1, 1, 201));
+        fails(ARGUMENT, () -> f.addView('l', 'c', 'a', 1, 2, 0));
+        f.read(0, 1);
+        f.cut();
+        fails(ARGUMENT, () -> f.addView('t', 'c', 'q', 1, 1, 0));
+        fails(BOUNDS, () -> f.valueOf(5, 8, 0, 0));
+        fails(BOUNDS, () -> f.valueByAll(5, 8, 0, 0));
+        fails(BOUNDS, () -> f.firstFrom(5, 8));
+        fails(BOUNDS, () -> f.meanOf(5, 8));
+        fails(BOUNDS, () -> f.rest(5, 8, 0));
+        fails(NONE, () -> f.rest(4, 8, 0));
+        fails(BOUNDS, () -> f.outputAt(0, 6));
+        fails(BOUNDS, () -> f.waitingAt(0, 6));
     }
 
     // Refused calls leave no trace.
