@@ -27,12 +27,23 @@ public final class LanguageTests {
         "\\bSystem\\.(?!arraycopy)", "\\bFloat\\b", "\\bDouble\\b", "Math\\.(floor|ceil|round|random)\\(", "\\bThread\\b",
         "\\bequals\\b", "\\bhashCode\\b", "\\btoString\\b", "static \\{", "@Override", "\\bObject\\b", "\\bvar\\b",
     };
+    private static final String THROWN = "new (IllegalState|IllegalArgument|IndexOutOfBounds|Arithmetic"
+            + "|UnsupportedOperation|NoSuchElement|Runtime)Exception\\((\"\")?\\);.*";
+    private static final String HEAD = " ++(?!(if|for|while|do|switch|else)\\b)[\\w<>\\[\\], ]+\\(.*";
+    private static final int MOST_CLASSES = 12;
+    private static final int MOST_FIELDS = 20;
+    private static final int MOST_LINES = 60;
     private static int wrong = 0;
+    private static int classes = 0;
 
     public static void main(String[] args) throws IOException {
         face();
         inside(ViewFoundry.class);
+        if (classes > MOST_CLASSES) {
+            report(classes + " classes");
+        }
         words();
+        lengths();
         System.out.println(wrong == 0 ? "the face and the words are as they should be" : wrong + " wrong");
         if (wrong != 0) {
             System.exit(1);
@@ -83,12 +94,18 @@ public final class LanguageTests {
     }
 
     private static void inside(Class<?> type) {
+        classes++;
         Set<Class<?>> constants = Set.of(int.class, long.class, boolean.class, char.class, String.class);
+        int fields = 0;
         for (Field field : type.getDeclaredFields()) {
             int modifiers = field.getModifiers();
             if (Modifier.isStatic(modifiers) && !(Modifier.isFinal(modifiers) && constants.contains(field.getType()))) {
                 report("no constant: " + type.getName() + "." + field.getName());
             }
+            fields += Modifier.isStatic(modifiers) ? 0 : 1;
+        }
+        if (fields > MOST_FIELDS) {
+            report(fields + " fields: " + type.getName());
         }
         for (Method method : type.getDeclaredMethods()) {
             if (method.getParameterCount() > 7) {
@@ -118,11 +135,39 @@ public final class LanguageTests {
                 report("has no place in the program: " + matcher.group());
             }
         }
+        Matcher thrown = Pattern.compile("\\bthrow\\s+([^\n]*)").matcher(code);
+        while (thrown.find()) {
+            if (!thrown.group(1).matches(THROWN)) {
+                report("not thrown as the rules say: " + thrown.group());
+            }
+        }
         Matcher imports = Pattern.compile("import ([\\w.]+);").matcher(code);
         Set<String> known = Set.of("java.util.ArrayList", "java.util.Arrays", "java.util.NoSuchElementException");
         while (imports.find()) {
             if (!known.contains(imports.group(1))) {
                 report("imported: " + imports.group(1));
+            }
+        }
+    }
+
+    /** The methods' lengths, by the indents of what opens and closes them. */
+    private static void lengths() throws IOException {
+        int line = 0;
+        int start = 0;
+        String opened = "";
+        for (String text : Files.readAllLines(Path.of("src/main/java/ViewFoundry.java"))) {
+            line++;
+            String indent = text.substring(0, text.length() - text.stripLeading().length());
+            boolean outermost = indent.length() == 4 || indent.length() == 8;
+            if (outermost && !text.endsWith(";") && text.matches(HEAD)) {
+                opened = indent;
+                start = line;
+            }
+            if (start > 0 && text.equals(opened + "}")) {
+                if (line - start >= MOST_LINES) {
+                    report("too long: the method at line " + start);
+                }
+                start = 0;
             }
         }
     }
